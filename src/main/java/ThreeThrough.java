@@ -792,7 +792,6 @@ public final class ThreeThrough {
         private final int[] args = new int[MOST_OPS];
         private final int[] stack = new int[MOST_OPS];
         private int size;
-        private int top;
         boolean told;
 
         void clear() {
@@ -814,45 +813,39 @@ public final class ThreeThrough {
             told = true;
         }
 
-        private void push(int v) {
-            if (top < MOST_OPS) {
-                stack[top] = v;
-                top++;
-            }
-        }
-
-        private int pop() {
-            if (top <= 0) {
-                return 0;
-            }
-            top--;
-            return stack[top];
-        }
-
-        /** The first line that counts; one without a first E counts as if that were 1. */
+        /**
+         * The first line that counts; one without a first E counts as if that were 1. What Reader
+         * wrote never lacks operands, so the looks at top only keep the places within the stack.
+         */
         int value(int[] names) {
-            top = 0;
+            int top = 0;
             int first = 1;
-            for (int i = 0; i < size; i++) {
+            for (int i = 0; i < size && top < MOST_OPS; i++) {
                 int op = ops[i];
                 if (op == VALUE) {
-                    push(args[i]);
+                    stack[top] = args[i];
+                    top++;
                 } else if (op == NAME) {
-                    push(args[i] < names.length ? names[args[i]] : 0);
+                    stack[top] = args[i] < names.length ? names[args[i]] : 0;
+                    top++;
+                } else if (top < 1) {
+                    return 0;
                 } else if (op == NEGATED) {
-                    push(-pop());
+                    stack[top - 1] = -stack[top - 1];
                 } else if (op == '!') {
-                    push(pop() == 0 ? 1 : 0);
+                    stack[top - 1] = stack[top - 1] == 0 ? 1 : 0;
                 } else if (op == '?') {
-                    first = pop();
-                } else if (op != ';') {
-                    int right = pop();
-                    push(joined(op, pop(), right));
-                } else if (first != 0) {
-                    return pop();
-                } else {
-                    pop();
+                    top--;
+                    first = stack[top];
+                } else if (op == ';') {
+                    top--;
+                    if (first != 0) {
+                        return stack[top];
+                    }
                     first = 1;
+                } else if (top >= 2) {
+                    top--;
+                    stack[top - 1] = joined(op, stack[top - 1], stack[top]);
                 }
             }
             return 0;
