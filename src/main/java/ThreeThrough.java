@@ -375,35 +375,43 @@ public final class ThreeThrough {
     // ---- books
 
     public int judge(int shelf, int n) {
-        if (!isShelf(shelf) || n < 0 || n > MOST_COUNTED) {
-            return BAD;
-        }
-        if (!shelves[shelf].isBook()) {
-            return shelves[shelf].notABook();
+        int refusal = refusalOfBook(shelf, n);
+        if (refusal != 0) {
+            return refusal;
         }
         int behind = readBook(shelves[shelf], n, PLAIN_BOOK);
         return behind >= 0 ? NOT : -1 - behind;
     }
 
     public int within(int shelf, int n) {
-        if (!isShelf(shelf) || n < 0 || n > MOST_COUNTED) {
-            return BAD;
-        }
-        if (!shelves[shelf].isBook()) {
-            return shelves[shelf].notABook();
+        int refusal = refusalOfBook(shelf, n);
+        if (refusal != 0) {
+            return refusal;
         }
         int behind = readBook(shelves[shelf], n, PLAIN_BOOK);
         return behind >= 0 ? behind : STATE;
     }
 
-    public int turned(int shelf, int wn, int what) {
-        if (!isShelf(shelf) || !isWithinOf(wn) || what < 0 || what > 1) {
+    /** Why a SHELF's BOOK can't be gone through with n people; 0 if it can. */
+    private int refusalOfBook(int shelf, int n) {
+        if (!isShelf(shelf) || n < 0 || n > MOST_COUNTED) {
             return BAD;
         }
-        Shelf book = shelves[shelf];
-        if (!book.isBook()) {
-            return book.notABook();
+        if (shelves[shelf].isBook()) {
+            return 0;
         }
+        return shelves[shelf].isEmpty() ? NOTHING_THERE : OTHER_KIND;
+    }
+
+    public int turned(int shelf, int wn, int what) {
+        if (!isWithinOf(wn) || what < 0 || what > 1) {
+            return BAD;
+        }
+        int refusal = refusalOfBook(shelf, wn % 100);
+        if (refusal != 0) {
+            return refusal;
+        }
+        Shelf book = shelves[shelf];
         int fitting = 0;
         int first = NOT;
         for (int two = book.size / 2 - 1; two >= 0; two--) {
@@ -416,10 +424,10 @@ public final class ThreeThrough {
     }
 
     /**
-     * Goes through a BOOK, the two with the number turned told the other way round: how many are
-     * within behind it, or -1 less the first two that cannot be.
+     * Goes through a BOOK, one of its twos told the other way round: how many are within behind
+     * it, or -1 less the first two that cannot be.
      */
-    private int readBook(Shelf book, int n, int turned) {
+    private int readBook(Shelf book, int n, int turnedTwo) {
         int inside = n;
         for (int i = 0; i < book.size; i += 2) {
             int two = i / 2;
@@ -428,7 +436,7 @@ public final class ThreeThrough {
             }
             int gate = (int) book.at(i);
             int told = (int) book.at(i + 1);
-            int went = two == turned ? -told : told;
+            int went = two == turnedTwo ? -told : told;
             if (!gates.has(gate) || Math.abs(went) != gates.numberOf(gate)) {
                 return -1 - two;
             }
@@ -1528,10 +1536,6 @@ public final class ThreeThrough {
 
         boolean isBook() {
             return sort == BYTES;
-        }
-
-        int notABook() {
-            return isEmpty() ? NOTHING_THERE : OTHER_KIND;
         }
 
         void holdBody(int number) {

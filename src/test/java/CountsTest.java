@@ -113,6 +113,10 @@ public final class CountsTest {
         due("escort(0, 1)", one.escort(0, 1), 0);
         due("escort(6, 0)", one.escort(6, 0), NOT);
         due("escort(6, 1)", one.escort(6, 1), NOT);
+        one.gate(3);
+        due("escort(10, 1)", one.escort(10, 1), 0);
+        due("escort(13, 1)", one.escort(13, 1), 1);
+        due("escort(14, 0)", one.escort(14, 0), NOT);
         for (int number = 1; number <= 6; number++) {
             ThreeThrough x = Checks.withGates(5, number);
             Model m = modelWith(5, number);

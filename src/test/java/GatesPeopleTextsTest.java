@@ -377,6 +377,11 @@ public final class GatesPeopleTextsTest {
         due("may(1, 11, 4), its COST mended", x.may(1, 11, 4), 0);
         Checks.tell(x, 0, "0-5");
         due("not 0", x.may(0, 0, 0), 1);
+        x.gate(1);
+        Checks.tell(x, 0, "g=2&s=0");
+        due("may(0, 20, 0)", x.may(0, 20, 0), 1);
+        due("may(0, 21, 0)", x.may(0, 21, 0), 0);
+        due("may(0, 10, 0)", x.may(0, 10, 0), 0);
     }
 
     private static void promise10Comes() {
@@ -393,6 +398,11 @@ public final class GatesPeopleTextsTest {
         due("comes(9, 5)", x.comes(9, 5), 9);
         Checks.tell(x, 1, "p|c|s");
         due("p, c, s are 0", x.comes(11, 5), 0);
+        x.gate(1);
+        Checks.tell(x, 1, "g*4+n");
+        due("comes(20, 5)", x.comes(20, 5), 8);
+        due("comes(10, 5)", x.comes(10, 5), 4);
+        due("comes(19, 5)", x.comes(19, 5), 12);
     }
 
     private static void promises28And29UndoRedo() {

@@ -58,6 +58,10 @@ public final class InDeedTest {
         due("both MAY", x.pass(0, 3), 0);
         Checks.tell(x, 0, "!s");
         due("nobody MAY come in", x.pass(1, 3), NOT);
+        x.gate(1);
+        Checks.tell(x, 0, "g=1&s");
+        due("by another GATE", x.pass(11, 1), 1);
+        due("the other way", x.pass(10, 1), NOT);
     }
 
     private static void promise12Tick() {
