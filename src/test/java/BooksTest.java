@@ -69,6 +69,11 @@ public final class BooksTest {
         Checks.bytes(x, 0);
         due("an empty BOOK", x.judge(0, 7), NOT);
         due("within an empty BOOK", x.within(0, 7), 7);
+        due("an empty BOOK of nobody", x.judge(0, 0), NOT);
+        due("within an empty BOOK of nobody", x.within(0, 0), 0);
+        Checks.bytes(x, 0, 1, 2, 0, 3);
+        due("all go out", x.judge(0, 5), NOT);
+        due("nobody is within", x.within(0, 5), 0);
         x.mend(0, 2, 4);
         Checks.bytes(x, 0, 0, 4);
         due("a NUMBER mended", x.judge(0, 7), NOT);

@@ -214,6 +214,14 @@ public final class GatesPeopleTextsTest {
         due("law 0 anew", Checks.tell(x, 0, "p=0"), 1);
         due("may anew", x.may(0, 0, 0), 1);
         due("a longest text", Checks.tell(x, 0, "1+".repeat(59) + "10"), 1);
+        // Each of its bytes is a step of its own, and the last ones count.
+        due("a text of most steps", Checks.tell(x, 0, "-1" + "+1".repeat(59)), 1);
+        due("it gives 58", x.may(0, 0, 0), 1);
+        due("a text of most steps", Checks.tell(x, 0, "-1" + "+1".repeat(56) + "-55+0"), 1);
+        due("it gives 0", x.may(0, 0, 0), 0);
+        due("a text of most lines", Checks.tell(x, 0, "0?1;".repeat(29) + "0?0;"), -220);
+        due("a text of most lines", Checks.tell(x, 0, "0?1;".repeat(29) + "9"), 1);
+        due("its last line counts", x.may(0, 0, 0), 1);
         due("a longest text that ends too early", Checks.tell(x, 0, "1+".repeat(60)), -220);
     }
 
