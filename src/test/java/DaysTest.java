@@ -15,6 +15,7 @@ public final class DaysTest {
         promise13SumsOnly();
         promise13GateByGate();
         promise13OutAndInAtOneTime();
+        promise13AgainAndAgain();
         daysAreInThought();
         promise15Best();
         promise15BestByLaw();
@@ -130,6 +131,23 @@ public final class DaysTest {
         due("sum(0, 0)", x.sum(0, 0), 18);
         due("sum(0, 1)", x.sum(0, 1), 4);
         due("best()", x.best(), 18);
+    }
+
+    private static void promise13AgainAndAgain() {
+        ThreeThrough x = Checks.withGates(1);
+        for (int i = 0; i < 12; i++) {
+            x.person(507, 1);
+        }
+        for (int way = 0; way < 3; way++) {
+            due("the last of twelve goes out", x.day(way, 11, 0), 5);
+            due("the last of twelve comes in", x.day(way, 11, 1), 7);
+            due("nobody waits", x.sum(way, 0), 0);
+            due("PASSINGS", x.sum(way, 1), 24);
+        }
+        x.mend(0, 2, 5);
+        due("by fives: the tenth", x.day(0, 9, 0), 5);
+        due("by fives: the eleventh", x.day(0, 10, 0), NOT);
+        due("by fives: PASSINGS", x.sum(0, 1), 4);
     }
 
     private static void daysAreInThought() {
