@@ -446,19 +446,23 @@ public final class GatesPeopleTextsTest {
     private static void promises28And29FortyAreKept() {
         ThreeThrough x = new ThreeThrough();
         x.person(1, 1);
-        for (int i = 0; i < 45; i++) {
-            x.mend(0, 1, 10 + i);
+        x.person(1, 1);
+        for (int k = 0; k < 45; k++) {
+            x.mend(k % 2, 1, 10 + k);
         }
         due("count(5)", x.count(5), 40);
-        for (int i = 39; i >= 0; i--) {
-            due("undo()", x.undo(), i);
+        for (int left = 39; left >= 0; left--) {
+            due("undo()", x.undo(), left);
+            int k = left + 5;
+            due("RETURNS ahead of change " + k, x.of(k % 2, 1), 8 + k);
         }
         due("undo(), a 41st", x.undo(), STATE);
-        due("RETURNS, five changes being forgotten", x.of(0, 1), 14);
-        for (int i = 39; i >= 0; i--) {
-            due("redo()", x.redo(), i);
+        for (int left = 39; left >= 0; left--) {
+            due("redo()", x.redo(), left);
+            int k = 44 - left;
+            due("RETURNS behind change " + k, x.of(k % 2, 1), 10 + k);
         }
         due("redo(), a 41st", x.redo(), STATE);
-        due("RETURNS", x.of(0, 1), 54);
+        due("RETURNS of the other", x.of(1, 1), 53);
     }
 }
