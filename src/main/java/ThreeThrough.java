@@ -85,7 +85,10 @@ public final class ThreeThrough {
             return BAD;
         }
         int was = become(number, what, v);
-        changes.add(number, what, was, v);
+        // What stays as it was is no CHANGE: none to be UNDONE, none behind those that are DONE AGAIN.
+        if (was != v) {
+            changes.add(number, what, was, v);
+        }
         return was;
     }
 

@@ -281,7 +281,7 @@ public final class ActsShelvesTest {
         x.pass(0, 2);
         Checks.feed(x, "12345");
         for (int i = 0; i < 6; i++) {
-            x.mend(0, 0, 1 + i);
+            x.mend(0, 0, 2 + i);
         }
         for (int i = 0; i < 7; i++) {
             x.body(7);

@@ -24,6 +24,8 @@ public final class GatesPeopleTextsTest {
         promise9May();
         promise10Comes();
         promises28And29UndoRedo();
+        promises28And29TheSameIsNoChange();
+        promises28And29TheSameForgetsNone();
         promises28And29FortyAreKept();
         CHECKS.end();
     }
@@ -145,7 +147,7 @@ public final class GatesPeopleTextsTest {
         due("mend(0, 2, 6)", x.mend(0, 2, 6), 3);
         due("of(0, 10)", x.of(0, 10), 6);
         due("mend(0, 2, 6) to the same", x.mend(0, 2, 6), 6);
-        due("count(5)", x.count(5), 5);
+        due("count(5), without that to the same", x.count(5), 4);
     }
 
     private static void promise6Of() {
@@ -441,6 +443,49 @@ public final class GatesPeopleTextsTest {
         due("undo()", x.undo(), 0);
         due("undo()", x.undo(), STATE);
         due("COST at first", x.of(0, 2), 4);
+    }
+
+    private static void promises28And29TheSameIsNoChange() {
+        ThreeThrough x = Checks.withGates(1, 3);
+        x.person(520, 4);
+        due("mend(1, 2, 3) to the same", x.mend(1, 2, 3), 3);
+        due("mend(0, 0, 4) to the same", x.mend(0, 0, 4), 4);
+        due("mend(0, 1, 20) to the same", x.mend(0, 1, 20), 20);
+        due("count(5)", x.count(5), 0);
+        due("undo()", x.undo(), STATE);
+        x.mend(1, 2, 5);
+        x.mend(0, 0, 6);
+        x.mend(0, 1, 30);
+        due("NUMBER to the same", x.mend(1, 2, 5), 5);
+        due("COST to the same", x.mend(0, 0, 6), 6);
+        due("RETURNS to the same", x.mend(0, 1, 30), 30);
+        due("count(5)", x.count(5), 3);
+        due("undo()", x.undo(), 2);
+        due("RETURNS is undone", x.of(0, 1), 20);
+        due("undo()", x.undo(), 1);
+        due("COST is undone", x.of(0, 2), 4);
+        due("RETURNS to the same, behind undo()", x.mend(0, 1, 20), 20);
+        due("no other came behind: redo()", x.redo(), 1);
+        due("COST is done again", x.of(0, 2), 6);
+        due("COST to the same, behind redo()", x.mend(0, 0, 6), 6);
+        due("redo()", x.redo(), 0);
+        due("RETURNS is done again", x.of(0, 1), 30);
+        due("to what it was at first is a change", x.mend(0, 1, 20), 30);
+        due("count(5)", x.count(5), 4);
+    }
+
+    private static void promises28And29TheSameForgetsNone() {
+        ThreeThrough x = new ThreeThrough();
+        x.person(1, 1);
+        for (int k = 0; k < 40; k++) {
+            x.mend(0, 1, 10 + k);
+        }
+        due("RETURNS to the same", x.mend(0, 1, 49), 49);
+        due("count(5)", x.count(5), 40);
+        for (int left = 39; left >= 0; left--) {
+            due("undo()", x.undo(), left);
+        }
+        due("RETURNS at first", x.of(0, 1), 1);
     }
 
     private static void promises28And29FortyAreKept() {

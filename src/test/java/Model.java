@@ -132,6 +132,7 @@ final class Model {
         if (what == 1 && (v <= people.get(number).leaves || v > 60)) return BAD;
         if (what == 2 && (!isGate(number) || v < 1 || v > 6)) return BAD;
         int was = set(number, what, v);
+        if (was == v) return was;
         done.add(new Change(number, what, was, v));
         if (done.size() > 40) done.remove(0);
         undone.clear();
