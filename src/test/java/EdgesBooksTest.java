@@ -40,6 +40,7 @@ public final class EdgesBooksTest {
         refusedChangesAreNone();
         theSameIsNoChange();
         fortyAreKept();
+        fortyOneByOne();
         fortyDoneAgain();
         EDGES.end();
     }
@@ -540,6 +541,24 @@ public final class EdgesBooksTest {
             for (int k = 0; k < 40; k++) x.undo();
         });
         EDGES.refused("a 41st UNDONE", x -> x.undo(), STATE);
+    }
+
+    private static void fortyOneByOne() {
+        EDGES.sentence("can be UNDONE, the latest first, and DONE AGAIN");
+        for (int n : new int[] {40, 41, 59}) {
+            manyChanges(n);
+            for (int k = 1; k <= 40; k++) {
+                int undone = k;
+                EDGES.inside(k + " of " + n + " UNDONE", x -> {
+                    for (int i = 0; i < undone; i++) x.undo();
+                    return x.of(0, 1);
+                }, n + 1 - undone);
+                EDGES.inside(k + " of " + n + " UNDONE, one DONE AGAIN", x -> {
+                    for (int i = 0; i < undone; i++) x.undo();
+                    return x.redo() * 100 + x.of(0, 1);
+                }, (undone - 1) * 100 + n + 2 - undone);
+            }
+        }
     }
 
     private static void fortyDoneAgain() {

@@ -12,6 +12,7 @@ public final class EdgesCountsTest {
 
     public static void main(String[] args) {
         withinOfHowMany();
+        noMoreWithinThanThereAre();
         soManyOnThatSide();
         reachOfMostPeople();
         reachWithoutGates();
@@ -71,10 +72,19 @@ public final class EdgesCountsTest {
         EDGES.refusedFor("reach", (x, wn) -> x.reach(wn), BAD, NO_WN);
         EDGES.refusedFor("steps to 0", (x, wn) -> x.steps(wn, 0), BAD, NO_WN);
         EDGES.refusedFor("boat to 0", (x, wn) -> x.boat(wn, 100), BAD, NO_WN);
+    }
+
+    private static void noMoreWithinThanThereAre() {
+        EDGES.sentence("by counts (wn: 100 times w, and n; w no more than n).");
+        EDGES.of(Edges::rich);
         for (int n = 0; n <= 40; n++) {
             int all = n;
-            EDGES.inside("all of " + n, x -> x.reach(101 * all), (1L << (all + 1)) - 1);
-            EDGES.inside("one more than " + n, x -> x.reach(101 * all + 100), BAD);
+            EDGES.inside("reach, all of " + n, x -> x.reach(101 * all), (1L << (all + 1)) - 1);
+            EDGES.inside("reach, one more than " + n, x -> x.reach(101 * all + 100), BAD);
+            EDGES.inside("steps, all of " + n, x -> x.steps(101 * all, all), 0);
+            EDGES.inside("steps, one more than " + n, x -> x.steps(101 * all + 100, all), BAD);
+            EDGES.inside("boat, all of " + n, x -> x.boat(101 * all, 100 + all), 0);
+            EDGES.inside("boat, one more than " + n, x -> x.boat(101 * all + 100, 100 + all), BAD);
         }
     }
 
@@ -98,7 +108,7 @@ public final class EdgesCountsTest {
         gates(6);
         EDGES.inside("reach(4040)", x -> x.reach(4040), counts(40, 34, 28, 22, 16, 10, 4));
         EDGES.inside("reach(40)", x -> x.reach(40), counts(0, 6, 12, 18, 24, 30, 36));
-        gates(6, 4);
+        gates(6, 6, 4);
         EDGES.inside("reach(40), by twos", x -> x.reach(40), 0x15555555555L);
         gates(6, 5);
         EDGES.inside("reach(909): 9, 4 and 9, 3, 8, 2, 7, 1, 6, 0, 5", x -> x.reach(909), (1L << 10) - 1);
@@ -196,6 +206,11 @@ public final class EdgesCountsTest {
         EDGES.inside("GATE 1, n 0", x -> x.escort(10, 1), 0);
         EDGES.inside("GATE 1, n 9", x -> x.escort(19, 1), 9);
         EDGES.refusedFor("no such GATE", (x, gn) -> x.escort(gn, 0), BAD, 20, 29, 30, -1, -9, -10, MIN, MAX);
+        gates(5, 3, 1);
+        EDGES.inside("GATE 1, n 3", x -> x.escort(13, 1), 1);
+        EDGES.inside("GATE 1, n 4", x -> x.escort(14, 1), NOT);
+        EDGES.inside("GATE 2, n 1", x -> x.escort(21, 1), 1);
+        EDGES.inside("GATE 2, n 9", x -> x.escort(29, 1), 9);
     }
 
     private static void escortWhat() {
@@ -273,6 +288,13 @@ public final class EdgesCountsTest {
         EDGES.refusedFor("no such TIME", (x, gt) -> x.waits(gt, 1, 0), NO_FRACTION, 60, 61, 99, 160, 199);
         EDGES.refusedFor("no such GATE", (x, gt) -> x.waits(gt, 1, 0), NO_FRACTION, 200, 259, 300, MAX);
         EDGES.refusedFor("below 0", (x, gt) -> x.waits(gt, 1, 0), NO_FRACTION, -1, -41, -59, -100, -141, MIN);
+        chances("g=1&t=0?12;g=1&t=59?12;0", 2, 1);
+        EDGES.inside("GATE 1 at TIME 0", x -> x.waits(100, 8, 0), 1);
+        EDGES.inside("GATE 1 at TIME 1", x -> x.waits(101, 8, 0), 8);
+        EDGES.inside("GATE 1 at TIME 58", x -> x.waits(158, 8, 0), 2);
+        EDGES.inside("GATE 1 at TIME 59", x -> x.waits(159, 8, 0), 1);
+        EDGES.inside("GATE 0 at TIME 0", x -> x.waits(0, 8, 0), 8);
+        EDGES.inside("GATE 0 at TIME 59", x -> x.waits(59, 8, 0), 8);
         EDGES.sentence("Long.MIN_VALUE: BAD.");
         EDGES.of(Edges::rich);
         EDGES.refusedFor("part", (x, part) -> x.waits(0, 1, part), NO_FRACTION, -1, 2, MIN, MAX);

@@ -439,6 +439,19 @@ public final class EdgesDaysTest {
             people(x, 60, 4);
         });
         EDGES.inside("one alone by ones", x -> x.best(), 0);
+        EDGES.of(x -> {
+            gates(x, 1, 1, 1);
+            people(x, 60, 4);
+            Checks.tell(x, 0, "g=0");
+        });
+        EDGES.inside("it MAY by GATE 0", x -> x.best(), 0);
+        EDGES.of(x -> {
+            gates(x, 1, 1, 1);
+            people(x, 60, 4);
+            Checks.tell(x, 0, "g");
+        });
+        EDGES.inside("it MAY by the others", x -> x.best(), 240);
+        EDGES.inside("best() once more", x -> x.best() + x.best(), 480);
     }
 
     private static void bestNumberAndPeople() {

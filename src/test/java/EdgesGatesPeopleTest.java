@@ -15,6 +15,8 @@ public final class EdgesGatesPeopleTest {
         memoryIsItsOwn();
         numberOfAGate();
         gatesAreFullAtThree();
+        theLastOfThreeGates();
+        theLastOfTwelvePeople();
         leavesOfAPerson();
         returnsOfAPerson();
         costOfAPerson();
@@ -123,6 +125,67 @@ public final class EdgesGatesPeopleTest {
         EDGES.inside("of(2, 10)", x -> x.of(2, 10), 6);
         EDGES.refusedFor("a fourth gate", (x, v) -> x.gate(v), FULL, 1, 3, 6);
         EDGES.refusedFor("a fourth gate, BAD ahead of FULL", (x, v) -> x.gate(v), BAD, 0, 7);
+    }
+
+    /** GATES of 6, 5 and 2, and twelve PEOPLE: in each call the last one is there, and none behind it. */
+    private static void full(ThreeThrough x) {
+        x.gate(6);
+        x.gate(5);
+        x.gate(2);
+        Edges.crowd(x, 12);
+        Checks.bytes(x, 0, 2, 2, 3, 2);
+        Checks.tell(x, 1, "g=2&t=0?12;0");
+    }
+
+    private static void theLastOfThreeGates() {
+        EDGES.sentence("GATES 0 .. 2, as they come");
+        EDGES.of(EdgesGatesPeopleTest::full);
+        EDGES.inside("of(2, 10)", x -> x.of(2, 10), 2);
+        EDGES.refused("of(3, 10)", x -> x.of(3, 10), BAD);
+        EDGES.inside("mend(2, 2, 4)", x -> x.mend(2, 2, 4), 2);
+        EDGES.refused("mend(3, 2, 4)", x -> x.mend(3, 2, 4), BAD);
+        EDGES.inside("may(0, 21, 0)", x -> x.may(0, 21, 0), 1);
+        EDGES.refusedFor("may(0, gs, 0)", (x, gs) -> x.may(0, gs, 0), BAD, 30, 31);
+        EDGES.insideFor("comes(gn, 0)", (x, gn) -> x.comes(gn, 0), 12, 20, 29);
+        EDGES.insideFor("comes(gn, 0)", (x, gn) -> x.comes(gn, 0), 0, 19, 10);
+        EDGES.refused("comes(30, 0)", x -> x.comes(30, 0), BAD);
+        EDGES.inside("pass(20, 3)", x -> x.pass(20, 3), 10);
+        EDGES.inside("pass(21, 3)", x -> x.pass(20, 3) + x.pass(21, 3), 10 + 12);
+        EDGES.refusedFor("pass(gs, 3)", (x, gs) -> x.pass(gs, 3), BAD, 30, 31);
+        EDGES.inside("escort(21, 1)", x -> x.escort(21, 1), NOT);
+        EDGES.inside("escort(22, 1)", x -> x.escort(22, 1), 1);
+        EDGES.refusedFor("escort(gn, 1)", (x, gn) -> x.escort(gn, 1), BAD, 30, 39);
+        EDGES.inside("waits(200, 1, 0)", x -> x.waits(200, 1, 0), 1);
+        EDGES.inside("waits(259, 2, 0)", x -> x.waits(259, 2, 0), 2);
+        EDGES.refusedFor("waits(gt, 1, 0)", (x, gt) -> x.waits(gt, 1, 0), Long.MIN_VALUE, 300, 359);
+        EDGES.inside("drawn(7, 2, 2)", x -> x.drawn(7, 2, 2), 0);
+        EDGES.inside("drawn(7, 2, 2) by ones", x -> x.mend(2, 2, 1) + x.drawn(7, 2, 2), 2 + 2);
+        EDGES.refused("drawn(7, 2, 3)", x -> x.drawn(7, 2, 3), BAD);
+        EDGES.inside("a BOOK: GATE 2 is there, 3 is not", x -> x.judge(0, 40), 1);
+        EDGES.inside("reach(2) by the third alone", x -> x.reach(2), 5);
+        EDGES.inside("steps(202, 0)", x -> x.steps(202, 0), 1);
+        EDGES.inside("boat(202, 100)", x -> x.boat(202, 100), 0);
+        EDGES.inside("soon(13) by all three at once", x -> x.soon(13), 1);
+        EDGES.inside("sum(0, 1): 6 and 6", x -> x.sum(0, 1), 2);
+    }
+
+    private static void theLastOfTwelvePeople() {
+        EDGES.sentence("PEOPLE 0 .. 11, as they come");
+        EDGES.of(EdgesGatesPeopleTest::full);
+        EDGES.inside("of(11, 1)", x -> x.of(11, 1), 60);
+        EDGES.refused("of(12, 1)", x -> x.of(12, 1), BAD);
+        EDGES.inside("mend(11, 0, 9)", x -> x.mend(11, 0, 9) * 10 + x.of(11, 2), 19);
+        EDGES.refused("mend(12, 0, 9)", x -> x.mend(12, 0, 9), BAD);
+        EDGES.inside("mend(11, 1, 1)", x -> x.mend(11, 1, 1), 60);
+        EDGES.refused("mend(12, 1, 1)", x -> x.mend(12, 1, 1), BAD);
+        EDGES.inside("may(11, 0, 0)", x -> x.may(11, 0, 0), 1);
+        EDGES.refused("may(12, 0, 0)", x -> x.may(12, 0, 0), BAD);
+        EDGES.inside("pass(20, 2049)", x -> x.pass(20, 2049), 10);
+        EDGES.inside("of(11, 3) then", x -> x.pass(20, 2049) + x.of(11, 3) + x.of(11, 4), 10 + 1);
+        EDGES.refused("pass(20, 4097)", x -> x.pass(20, 4097), BAD);
+        EDGES.inside("tick(60), of(11, 6)", x -> x.tick(60) + x.of(11, 6), 120);
+        EDGES.inside("day(0, 11, 0)", x -> x.day(0, 11, 0), 0);
+        EDGES.refused("day(0, 12, 0)", x -> x.day(0, 12, 0), BAD);
     }
 
     private static void leavesOfAPerson() {
@@ -358,6 +421,11 @@ public final class EdgesGatesPeopleTest {
             EDGES.inside("of(2, " + what + ")", x -> x.of(2, what), want[what]);
             EDGES.refusedFor("of(p, " + what + ")", (x, p) -> x.of(p, what), BAD, -1, 3, 11, 12, MIN, MAX);
         }
+        int[] ofOneOut = {0, 5, 4, 0, 1, 1, 6};
+        for (int k = 0; k < ofOneOut.length; k++) {
+            int what = k;
+            EDGES.inside("of(0, " + what + "), who is out", x -> x.of(0, what), ofOneOut[what]);
+        }
         EDGES.inside("of(0, 10)", x -> x.of(0, 10), 2);
         EDGES.inside("of(1, 10)", x -> x.of(1, 10), 1);
         EDGES.refusedFor("of(g, 10)", (x, g) -> x.of(g, 10), BAD, -1, 2, 3, MIN, MAX);
@@ -517,6 +585,22 @@ public final class EdgesGatesPeopleTest {
             x.tick(4);
         });
         EDGES.refused("a TIME ahead nobody MAY", x -> x.pass(0, 6), NOT);
+        for (int g = 0; g < 3; g++) {
+            int gate = g;
+            EDGES.of(x -> {
+                for (int i = 0; i < 3; i++) x.gate(1);
+                Edges.crowd(x, 2);
+                x.pass(0, 2);
+                Checks.tell(x, 0, "g=" + gate + "&s=0");
+            });
+            EDGES.inside("out by GATE " + g, x -> x.pass(10 * gate, 1), 0);
+            EDGES.refused("in by GATE " + g, x -> x.pass(10 * gate + 1, 2), NOT);
+            EDGES.refused("out by another than GATE " + g, x -> x.pass(10 * ((gate + 1) % 3), 1), NOT);
+            EDGES.inside("in by GATE " + g + " by another law", x -> {
+                Checks.tell(x, 0, "g=" + gate + "&s=1");
+                return x.pass(10 * gate + 1, 2);
+            }, 2);
+        }
     }
 
     private static void passWithoutWaiting() {

@@ -109,6 +109,8 @@ public final class EdgesTextsTest {
         fault("1+".repeat(59) + "1x", 119);
         fault("1+".repeat(59) + "xx", 118);
         gives("0+".repeat(59) + "11", 11);
+        gives("-1" + "+1".repeat(9) + "+0".repeat(50), 8);
+        gives("-1" + "+0".repeat(50) + "+1".repeat(9), 8);
         gives("0?1;".repeat(29) + "9", 9);
         gives("0?1;".repeat(29) + "0?9", 0);
     }
@@ -563,11 +565,24 @@ public final class EdgesTextsTest {
         EDGES.inside("with LAW 1 alone", x -> Checks.tell(x, 1, "0") + x.may(0, 0, 0), 1 + 1);
     }
 
+    /** A text for MAY, whatever there is on THE TAPE. */
+    private static int tellAnew(ThreeThrough x, String text) {
+        x.law(0);
+        return Checks.tell(x, 0, text);
+    }
+
     private static void mayWhoGateWay() {
         EDGES.sentence("MAY (gs: 10 times the GATE and the way 0, 1): 1, 0. BAD.");
         EDGES.of(Edges::rich);
         EDGES.inside("the last PERSON, GATE and way", x -> x.may(2, 11, 0), 1);
         EDGES.inside("the last PERSON, GATE and the first way", x -> x.may(2, 10, 0), 0);
+        for (int g = 0; g < 2; g++) {
+            int gate = g;
+            EDGES.inside("out by GATE " + g, x -> tellAnew(x, "g=" + gate + "&s=0") * x.may(0, 10 * gate, 0), 1);
+            EDGES.inside("in by GATE " + g, x -> tellAnew(x, "g=" + gate + "&s=0") * x.may(0, 10 * gate + 1, 0), 0);
+            EDGES.inside("in by GATE " + g, x -> tellAnew(x, "g=" + gate + "&s=1") * x.may(0, 10 * gate + 1, 0), 1);
+            EDGES.inside("out by GATE " + g, x -> tellAnew(x, "g=" + gate + "&s=1") * x.may(0, 10 * gate, 0), 0);
+        }
         EDGES.refusedFor("nobody", (x, p) -> x.may(p, 0, 0), BAD, -1, 3, 11, 12, MIN, MAX);
         EDGES.refusedFor("no such way", (x, gs) -> x.may(0, gs, 0), BAD, 2, 3, 9, 12, 19);
         EDGES.refusedFor("no such GATE", (x, gs) -> x.may(0, gs, 0), BAD, 20, 21, 30, -1, -9, -10, -11, MIN, MAX);
