@@ -837,7 +837,7 @@ public final class ThreeThrough {
                     stack[top] = args[i];
                     top++;
                 } else if (op == NAME) {
-                    stack[top] = args[i] < names.length ? names[args[i]] : 0;
+                    stack[top] = args[i] >= 0 && args[i] < names.length ? names[args[i]] : 0;
                     top++;
                 } else if (top < 1) {
                     return 0;

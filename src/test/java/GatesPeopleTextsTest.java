@@ -27,6 +27,7 @@ public final class GatesPeopleTextsTest {
         promises28And29TheSameIsNoChange();
         promises28And29TheSameForgetsNone();
         promises28And29FortyAreKept();
+        promises28And29FortyOfAllSortsAreKept();
         CHECKS.end();
     }
 
@@ -509,5 +510,37 @@ public final class GatesPeopleTextsTest {
         }
         due("redo(), a 41st", x.redo(), STATE);
         due("RETURNS of the other", x.of(1, 1), 53);
+    }
+
+    /** What change k mends by turns (COST, RETURNS, NUMBER) becomes: never what it was. */
+    private static int turnsTo(int k) {
+        return k % 3 == 0 ? 1 + k / 3 % 9 : k % 3 == 1 ? 10 + k : 1 + k / 3 % 6;
+    }
+
+    private static int nowAt(ThreeThrough x, int k) {
+        return x.of(0, k % 3 == 0 ? 2 : k % 3 == 1 ? 1 : 10);
+    }
+
+    private static void promises28And29FortyOfAllSortsAreKept() {
+        ThreeThrough x = Checks.withGates(6);
+        x.person(1, 9);
+        for (int k = 0; k < 50; k++) {
+            x.mend(0, k % 3, turnsTo(k));
+        }
+        due("count(5)", x.count(5), 40);
+        for (int left = 39; left >= 0; left--) {
+            int k = left + 10;
+            due("undo()", x.undo(), left);
+            due("ahead of change " + k, nowAt(x, k), turnsTo(k - 3));
+            due("what change " + (k - 1) + " made stays", nowAt(x, k - 1), turnsTo(k - 1));
+            due("what change " + (k - 2) + " made stays", nowAt(x, k - 2), turnsTo(k - 2));
+        }
+        due("undo(), a 41st", x.undo(), STATE);
+        for (int left = 39; left >= 0; left--) {
+            int k = 49 - left;
+            due("redo()", x.redo(), left);
+            due("behind change " + k, nowAt(x, k), turnsTo(k));
+        }
+        due("redo(), a 41st", x.redo(), STATE);
     }
 }
